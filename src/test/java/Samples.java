@@ -18,7 +18,7 @@ final class Samples {
             + "rain 4 at 3;\n"
             + "rain 2 at 0;\n";
 
-    /** LEVEL: 1 0 5 4 3 2 1 0 .. 0, 9 at 50, 8 .. 0 at 59, 0. One REACH, low 2: STANDS at 0, 1, 6 .. 49, 57 .. 60. */
+    /** LEVEL: 1 0 5 4 3 2 1 0 .. 0, 9 at 50, 8 .. 0 at 59, 0. One REACH, low 2: STANDS at 0, 1, 6 .. 49, 58 .. 60. */
     static final String GAPS = "rivers level 1 odds 10 swell 1;reach to sea takes 5 low 2;rain 5 at 2;rain 9 at 50;";
 
     /** LEVEL 1 at STEP 0; with the chance of 2 in ten 3 more. */
