@@ -1192,7 +1192,7 @@ public final class QuotedRiver {
         }
 
         private int byteAt(int place) {
-            return pick(bytes, place);
+            return place >= 0 && place < bytes.length ? bytes[place] : 0;
         }
 
         private boolean says(String word, int place) {
