@@ -47,10 +47,9 @@ public final class QuotedRiver {
     private static final int ACT_POUR = 2;
 
     private final Tape tape = new Tape();
+    private final Reader reader = new Reader();
     private final Rivers now = new Rivers();
-    /** What a text is read into, and RIVERS that are but tried. */
-    private final Rivers spare = new Rivers();
-    private final Reader reader = new Reader(spare);
+    private final Rivers tried = new Rivers();
     private final Rivers[] images = new Rivers[IMAGES];
     private int imagesKept = 0;
     private final Water water = new Water();
@@ -99,7 +98,7 @@ public final class QuotedRiver {
         if (reader.fault != 0) {
             return FAULTY;
         }
-        now.become(spare);
+        now.become(reader.rivers);
         water.settle(now);
         return now.lines();
     }
@@ -1064,12 +1063,12 @@ public final class QuotedRiver {
         if (row == null) {
             return found;
         }
-        spare.become(now);
+        tried.become(now);
         for (int each = 1; each <= MOST_EACH; each++) {
             for (int at = 0; at < each; at++) {
-                put(spare.joinEach, join, each);
-                put(spare.joinAt, join, at);
-                stick.drift(spare, water, reach, 0);
+                put(tried.joinEach, join, each);
+                put(tried.joinAt, join, at);
+                stick.drift(tried, water, reach, 0);
                 if (stick.wasSeen(row)) {
                     found.add(10 * each + at);
                 }
@@ -1728,28 +1727,23 @@ public final class QuotedRiver {
         }
     }
 
-    /** Reads a text into RIVERS. Behind the first FAULT it takes nothing more. */
+    /** Reads a text into RIVERS of its own. Behind the first FAULT it takes nothing more. */
     private static final class Reader {
         private static final int FAULT_TOKEN = 1;
         private static final int FAULT_NUMBER = 2;
         private static final int FAULT_MANY = 3;
 
         private final Tokens tokens = new Tokens();
-        private final Rivers rivers;
+        private final Rivers rivers = new Rivers();
         private int fault = 0;
         private int faultPlace = NONE;
         private int kind = Tokens.END;
         private int next = 0;
 
-        private Reader(Rivers into) {
-            rivers = into;
-        }
-
         private void read(Tape tape) {
             tokens.scan(tape);
             rivers.clear();
             fault = 0;
-            faultPlace = NONE;
             next = 0;
             kind = pick(tokens.kinds, next);
             for (int line = 0; line < MOST_BYTES && kind != Tokens.END && fault == 0; line++) {
@@ -1766,6 +1760,8 @@ public final class QuotedRiver {
                 }
                 take(Tokens.SIGN);
             }
+            // Nothing is taken behind the TOKEN of a FAULT, so it is the next one still.
+            faultPlace = fault == 0 ? NONE : pick(tokens.places, next);
             rivers.sendToSea();
         }
 
@@ -1844,7 +1840,6 @@ public final class QuotedRiver {
         private void blame(int what) {
             if (fault == 0) {
                 fault = what;
-                faultPlace = pick(tokens.places, next);
             }
         }
     }

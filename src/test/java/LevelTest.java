@@ -62,6 +62,10 @@ public final class LevelTest {
         Due.is("idle", y.idle(0), 20);
         QuotedRiver z = Due.told("rivers level 0 odds 0 swell 1;reach to sea takes 1 low 1;rain 9 at 0;");
         Due.is("drought to the end", z.drought(0), 52);
+        QuotedRiver late = Due.told("rivers level 60 odds 0 swell 1;reach to sea takes 1 low 1;");
+        Due.is("dry at 60", late.dry(0), 60);
+        Due.is("idle at 60", late.idle(0), 1);
+        Due.is("drought at 60", late.drought(0), 1);
         QuotedRiver all = Due.told("rivers level 19 odds 0 swell 1;reach to sea takes 1 low 20;");
         Due.is("drought of all", all.drought(0), 61);
         Due.is("idle of all", all.idle(0), 61);

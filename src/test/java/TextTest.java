@@ -10,6 +10,7 @@ public final class TextTest {
         linesOfRivers();
         riversInPlaceOfOthers();
         faultOfToken();
+        faultOfOtherWord();
         faultOfNumber();
         faultOfMany();
         faultOfTheLatest();
@@ -149,6 +150,12 @@ public final class TextTest {
         fault(HEAD + "reach 1 takes 2 low 3;", 1, 36);
         fault(HEAD + "reach to reach takes 2 low 3;", 1, 39);
         fault(HEAD + "reach to seas takes 2 low 3;", 1, 39);
+        fault(HEAD + "reach to seaz takes 2 low 3;", 1, 39);
+        fault(HEAD + "reach to asea takes 2 low 3;", 1, 39);
+        fault(HEAD + "reach to sea{takes 2 low 3;", 1, 42);
+        fault(HEAD + "reach to sea`takes 2 low 3;", 1, 42);
+        fault("rivers level 5:odds 2 swell 3;", 1, 14);
+        fault("rivers level 5/odds 2 swell 3;", 1, 14);
         fault(HEAD + "reach to sea 1 takes 2 low 3;", 1, 43);
         fault(HEAD + "reach to ; takes 2 low 3;", 1, 39);
         fault(HEAD + REACH + "join 0 to sea each 2 at 0;", 1, 65);
@@ -161,6 +168,26 @@ public final class TextTest {
         // A number where none can stand is a TOKEN that can't, whatever it is; the first FAULT is it.
         fault("rivers 99 level 61;", 1, 7);
         fault("rivers level 61 odds 99 !", 2, 13);
+    }
+
+    /** Each word in turn in the place of each other one can't stand there. */
+    private static void faultOfOtherWord() {
+        String[] words = {"rivers", "level", "odds", "swell", "reach", "to", "sea", "takes", "low", "join", "each", "at",
+            "rain"};
+        String[] tokens = ("rivers level 5 odds 2 swell 3 ; reach to sea takes 1 low 0 ; join 0 to 0 each 1 at 0 ; "
+                + "rain 1 at 0 ;").split(" ");
+        Due.is("rivers", Due.tell(new QuotedRiver(), String.join(" ", tokens)), 4);
+        for (int i = 0; i < tokens.length; i++) {
+            for (String word : words) {
+                boolean begins = i > 0 && tokens[i - 1].equals(";") && word.matches("reach|join|rain");
+                if (!word.equals(tokens[i]) && !begins) {
+                    String[] other = tokens.clone();
+                    other[i] = word;
+                    fault(String.join(" ", other), 1, String.join(" ", tokens).length()
+                            - String.join(" ", java.util.Arrays.copyOfRange(tokens, i, tokens.length)).length());
+                }
+            }
+        }
     }
 
     private static void faultOfNumber() {
