@@ -2,6 +2,7 @@
 final class Due {
     private static int asked = 0;
     private static int wrong = 0;
+    private static String about = "";
 
     private Due() {
     }
@@ -11,9 +12,18 @@ final class Due {
         if (got != want) {
             wrong++;
             if (wrong <= 30) {
-                System.out.println(call + " answered " + got + ", due is " + want);
+                System.out.println(about + call + " answered " + got + ", due is " + want);
             }
         }
+    }
+
+    static int asked() {
+        return asked;
+    }
+
+    /** What a wrong answer is told with from here on. */
+    static void about(String what) {
+        about = "[" + what + "] ";
     }
 
     /** A test without a question has failed, too. */

@@ -29,4 +29,37 @@ final class Samples {
             + "reach to 1 takes 1 low 0;reach to 4 takes 1 low 0;reach to 4 takes 1 low 0;"
             + "reach to 4 takes 1 low 0;reach to sea takes 1 low 0;"
             + "join 0 to 2 each 3 at 1;join 0 to 3 each 3 at 2;";
+
+    // Single LINES, for rivers that a test makes of its own.
+
+    static final int SEA = -1;
+    /** Of no REACH is it ever low: 60 at STEP 0, 0 at 60, and no low above 0. */
+    static final String HIGH = rivers(60);
+    /** LEVEL 0 at each STEP. */
+    static final String EMPTY = rivers(0);
+
+    static String rivers(int level) {
+        return rivers(level, 0, 1);
+    }
+
+    static String rivers(int level, int odds, int swell) {
+        return "rivers level " + level + " odds " + odds + " swell " + swell + ";";
+    }
+
+    static String reach(int to, int takes, int low) {
+        return "reach to " + (to == SEA ? "sea" : String.valueOf(to)) + " takes " + takes + " low " + low + ";";
+    }
+
+    /** It takes 1, and never STANDS. */
+    static String reach(int to) {
+        return reach(to, 1, 0);
+    }
+
+    static String join(int from, int to, int each, int at) {
+        return "join " + from + " to " + to + " each " + each + " at " + at + ";";
+    }
+
+    static String rain(int much, int step) {
+        return "rain " + much + " at " + step + ";";
+    }
 }
