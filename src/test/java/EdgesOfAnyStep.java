@@ -10,6 +10,12 @@ final class EdgesOfAnyStep {
     private static final String FIFTH = Samples.EMPTY + LOW_ONE + Samples.rain(1, 5);
     /** At STEP 59 alone. */
     private static final String LAST = Samples.EMPTY + LOW_ONE + Samples.rain(1, 59);
+    /** Put in at 0 .. 58 it is in the sea at 59, at 59 alone it is by the JOIN in 1 at 60. */
+    private static final String ONLY_LAST = Samples.EMPTY + Samples.reach(SEA, 1, 1) + Samples.reach(SEA)
+            + Samples.join(0, 1, 2, 1) + Samples.rain(1, 58) + Samples.rain(1, 59);
+    /** Put in at 0 .. 57 it is in the sea at 58, at 58 alone it is by the JOIN in 1 at 59 and in 2 at 60. */
+    private static final String LAST_BUT_ONE = Samples.EMPTY + Samples.reach(SEA, 1, 1) + Samples.reach(2)
+            + Samples.reach(SEA) + Samples.join(0, 1, 2, 0) + Samples.rain(1, 57) + Samples.rain(1, 58);
     /** Carried at 1, 3, 8 and 9, twice from 0 to 1: put in at 0 and 1 it is there at 4, at 2 and 3 at 9, at 4 .. 8 at 10. */
     private static final String TWICE = Samples.EMPTY + Samples.reach(1, 2, 1) + Samples.reach(1, 1, 20)
             + Samples.rain(1, 1) + Samples.rain(1, 3) + Samples.rain(2, 8);
@@ -65,7 +71,9 @@ final class EdgesOfAnyStep {
         Sentences.promise(39, "REACHES into which some STICK put in a REACH (at any STEP) ever comes, it, too, as bits.");
         Due.is("at 0 alone", Due.told(FIRST).can(0), 3);
         Due.is("at 5 alone", Due.told(FIFTH).can(0), 3);
-        Due.is("at 59 alone", Due.told(LAST).can(0), 3);
+        Due.is("at 59", Due.told(LAST).can(0), 3);
+        Due.is("at 59 alone", Due.told(ONLY_LAST).can(0), 3);
+        Due.is("at 58 alone", Due.told(LAST_BUT_ONE).can(0), 7);
         Due.is("at 60 alone", Due.told(Samples.EMPTY + LOW_ONE + Samples.rain(1, 60)).can(0), 1);
         Due.is("it, too", Due.told(FIRST).can(2), 4);
         QuotedRiver fork = Due.told(FORK);
@@ -85,6 +93,8 @@ final class EdgesOfAnyStep {
         Due.is("at 0 alone", Due.told(FIRST).slowly(0, 1), 1);
         Due.is("from 0 to 6", Due.told(FIFTH).slowly(0, 1), 6);
         Due.is("from 0 to 60", Due.told(LAST).slowly(0, 1), 60);
+        Due.is("from 59", Due.told(ONLY_LAST).slowly(0, 1), 1);
+        Due.is("from 58", Due.told(LAST_BUT_ONE).slowly(0, 2), 2);
         Due.is("to itself", Due.told(LAST).slowly(0, 0), 0);
         // Put in at 1 .. 10 it comes at 11, at 0 at 1.
         Due.is("from 1 to 11", Due.told(Samples.rivers(1) + LOW_ONE + Samples.rain(1, 10)).slowly(0, 1), 10);
@@ -101,6 +111,7 @@ final class EdgesOfAnyStep {
         Due.is("at 0 alone", Due.told(FIRST).soon(0, 1), 0);
         Due.is("of 0 .. 5", Due.told(FIFTH).soon(0, 1), 5);
         Due.is("of 0 .. 59", Due.told(LAST).soon(0, 1), 59);
+        Due.is("at 59 alone", Due.told(ONLY_LAST).soon(0, 1), 59);
         Due.is("to itself", Due.told(LAST).soon(0, 0), 0);
         // Not the STEP from which it is quickest.
         Due.is("the earliest", Due.told(TWICE).soon(0, 1), 1);
@@ -116,6 +127,8 @@ final class EdgesOfAnyStep {
         Due.is("at 0 alone", Due.told(FIRST).quick(0, 1), 1);
         Due.is("from 5", Due.told(FIFTH).quick(0, 1), 1);
         Due.is("from 59", Due.told(LAST).quick(0, 1), 1);
+        Due.is("from 59 alone", Due.told(ONLY_LAST).quick(0, 1), 1);
+        Due.is("from 58 alone", Due.told(LAST_BUT_ONE).quick(0, 2), 2);
         Due.is("to itself", Due.told(LAST).quick(0, 0), 0);
         Due.is("from 8 to 10", Due.told(TWICE).quick(0, 1), 2);
         Sentences.promise(44, "NONE: it never does;");
@@ -130,6 +143,7 @@ final class EdgesOfAnyStep {
         Due.is("at 0 alone", Due.told(FIRST).quickly(0, 1), 0);
         Due.is("at 5", Due.told(FIFTH).quickly(0, 1), 5);
         Due.is("at 59", Due.told(LAST).quickly(0, 1), 59);
+        Due.is("at 59 alone", Due.told(ONLY_LAST).quickly(0, 1), 59);
         Due.is("the first of all", Due.told(FORK).quickly(0, 4), 0);
         Due.is("the first of each third", Due.told(FORK).quickly(0, 3), 2);
         Due.is("to itself", Due.told(LAST).quickly(0, 0), 0);
@@ -147,6 +161,7 @@ final class EdgesOfAnyStep {
         Due.is("in 1 at 60", fifth.late(0, 1, 60), 5);
         Due.is("in 1 at 1", Due.told(FIRST).late(0, 1, 1), 0);
         Due.is("in 1 at 60", Due.told(LAST).late(0, 1, 60), 59);
+        Due.is("at 59 alone", Due.told(ONLY_LAST).late(0, 1, 60), 59);
         Due.is("in itself", fifth.late(0, 0, 60), 60);
         Due.is("in itself at 0", fifth.late(0, 0, 0), 0);
         // It goes through 3: in 3 at 4 it was put in at 2, and at no other STEP.
@@ -169,6 +184,7 @@ final class EdgesOfAnyStep {
         Due.is("0", Due.told(FIRST).often(0, 1), 1);
         Due.is("0 .. 5", Due.told(FIFTH).often(0, 1), 6);
         Due.is("0 .. 59", Due.told(LAST).often(0, 1), 60);
+        Due.is("59", Due.told(ONLY_LAST).often(0, 1), 1);
         Due.is("0 .. 60", Due.told(LAST).often(0, 0), 61);
         Due.is("at none", Due.told(FIRST).often(0, 2), 0);
         // By 3 at 2, 5, .. 59; to 4 at 0 .. 58.
@@ -209,6 +225,7 @@ final class EdgesOfAnyStep {
         Due.is("at 5 alone", Due.told(Samples.EMPTY + low + Samples.rain(1, 5)).stop(0, 2), 1);
         Due.is("at 58 alone", Due.told(Samples.EMPTY + low + Samples.rain(1, 58)).stop(0, 2), 1);
         Due.is("at 59: at 61", Due.told(Samples.EMPTY + low + Samples.rain(1, 59)).stop(0, 2), 0);
+        Due.is("put in at 58 alone", Due.told(LAST_BUT_ONE).stop(0, 2), 1);
         // Six side by side.
         Due.is("by five JOINS and as told", Due.told(Samples.HIGH + Samples.reach(1) + Samples.reach(7).repeat(6)
                 + Samples.reach(SEA) + Samples.join(0, 2, 7, 1) + Samples.join(0, 3, 7, 2) + Samples.join(0, 4, 7, 3)
@@ -224,6 +241,7 @@ final class EdgesOfAnyStep {
         Due.is("one twice", fork.stop(5, 5), -1);
         // Straight from 0 at STEP 59 alone.
         Due.is("straight at 59", Due.told(LAST).stop(0, 1), -1);
+        Due.is("straight, put in at 59 alone", Due.told(ONLY_LAST).stop(0, 1), -1);
         Due.is("straight at 60", Due.told(Samples.EMPTY + LOW_ONE + Samples.rain(1, 60)).stop(0, 1), 0);
         Sentences.promise(48, "-2: there are none such.");
         noTwo(Due.told(FIRST), 3);
@@ -236,6 +254,7 @@ final class EdgesOfAnyStep {
         Due.is("the one behind them", fork.stops(0, 5), 16);
         Due.is("of 4 alone", fork.stops(2, 5), 16);
         Due.is("none does", fork.stops(5, 0), 0);
+        Due.is("put in at 58 alone", Due.told(LAST_BUT_ONE).stops(0, 2), 2);
         // 0 to 4 to 3 to 2 to 1: one of three, the least is 2; to 2 one of two, the least is 3.
         QuotedRiver row = Due.told(Samples.HIGH + Samples.reach(4) + Samples.reach(SEA) + Samples.reach(1)
                 + Samples.reach(2) + Samples.reach(3));
@@ -278,6 +297,11 @@ final class EdgesOfAnyStep {
                 + Samples.join(1, 2, 1, 0) + Samples.join(0, 1, 1, 0));
         Due.is("sea", soonest.sea(0, 0), 5);
         Due.is("without 0 at 2, without 1 at 1", soonest.shut(0, 0), 1);
+        // Without the first at 8, by two REACHES; without the second at 3, by one: the soonest, not the fewest.
+        QuotedRiver takes = Due.told(Samples.HIGH + Samples.reach(SEA, 3, 0) + Samples.reach(SEA, 5, 0)
+                + Samples.reach(SEA, 5, 0) + Samples.join(1, 2, 1, 0) + Samples.join(0, 1, 1, 0));
+        Due.is("sea", takes.sea(0, 0), 13);
+        Due.is("without the second", takes.shut(0, 0), 1);
         // 0 goes at STEPS 0 .. 2, 30 and 31, by the JOIN into 1, which STANDS for good.
         QuotedRiver low = Due.told(Samples.rivers(3) + Samples.reach(SEA, 1, 1) + Samples.reach(SEA, 1, 20)
                 + Samples.join(0, 1, 1, 0) + Samples.rain(2, 30));

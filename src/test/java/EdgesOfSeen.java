@@ -9,6 +9,9 @@ final class EdgesOfSeen {
     /** In 3 at 2: 0 put in at 0, 1 and 2 at 1, and 3 at 2. */
     private static final String FOUR_WAYS = Samples.HIGH + Samples.reach(3, 2, 0) + Samples.reach(3).repeat(2)
             + Samples.reach(SEA);
+    /** Carried at 0 .. 3 and 57 .. 59: from 0 (five) to 1 (two) to the sea. */
+    private static final String LAST_TELLS = Samples.rivers(4) + Samples.reach(1, 5, 1) + Samples.reach(SEA, 2, 1)
+            + Samples.rain(3, 57);
 
     private EdgesOfSeen() {
     }
@@ -208,6 +211,11 @@ final class EdgesOfSeen {
         Due.is("30", seen(Samples.HIGH + Samples.reach(SEA)).ask(0), 30);
         // Ten that keep all: at 55 fifty are not put in yet, 56 in each; at 54 it is sixty and 55, at 56 forty and 57.
         Due.is("55", seen(EdgesOfSlots.TEN).ask(0), 55);
+        // Nine that come to the tenth at 1: at 54 sixty are not put in yet, 64 in the tenth; at 53 seventy, at 55 65.
+        Due.is("54", ten(0).ask(0), 54);
+        // In 0 at 4, put in at 0 .. 4: at 1 and 2 three are on one side, at 59 three are in 0 still; at 60 two are in 0,
+        // two in 1, one is in the sea.
+        Due.is("60", seen(LAST_TELLS, 4, 0).ask(0), 60);
         // 0 put in at 0, 1 and 2 at 1, 3 at 2: at 0 three are not put in yet, at 1 each is elsewhere.
         Due.is("in 0, 1 and 2", seen(FOUR_WAYS, 2, 3).ask(0), 1);
     }
@@ -232,6 +240,8 @@ final class EdgesOfSeen {
         Due.is("as now: 1", seen(RING, 0, 1).doubts(0), 1);
         Due.is("as now: none", seen(RING, 0, 1, 0, 2).doubts(0), 0);
         Due.is("56 of 610", seen(EdgesOfSlots.TEN).doubts(0), 56);
+        Due.is("64 of 610", ten(0).doubts(0), 64);
+        Due.is("2 of 5", seen(LAST_TELLS, 4, 0).doubts(0), 2);
         Due.is("1 of 4", seen(FOUR_WAYS, 2, 3).doubts(0), 1);
         Sentences.promise(56, "-2, -6 likewise.");
         Due.is("-2", seen(RING, 61, 0).doubts(0), -2);

@@ -20,6 +20,7 @@ final class EdgesOfText {
         lines();
         line();
         otherWords();
+        nearWords();
         firstLine();
         boundsOfRivers();
         boundsOfReach();
@@ -120,6 +121,26 @@ final class EdgesOfText {
                     other[i] = word;
                     fails(String.join(" ", other), 1, place);
                 }
+            }
+            place += tokens[i].length() + 1;
+        }
+    }
+
+    /** Each word with any one letter another one, one too many or one too few. */
+    private static void nearWords() {
+        Sentences.term("I", "rivers level N odds N swell N | reach to R|sea takes N low N | join R to R each N at N | "
+                + "rain N at N.");
+        String[] tokens = ONE_OF_EACH.split(" ");
+        int place = 0;
+        for (int i = 0; i < tokens.length; i++) {
+            for (int at = 0; at < tokens[i].length() && tokens[i].matches("[a-z]+"); at++) {
+                String[] other = tokens.clone();
+                other[i] = tokens[i].substring(0, at) + "q" + tokens[i].substring(at + 1);
+                fails(String.join(" ", other), 1, place);
+                other[i] = tokens[i].substring(0, at) + tokens[i].substring(at + 1);
+                fails(String.join(" ", other), 1, place);
+                other[i] = tokens[i].substring(0, at) + tokens[i].charAt(at) + tokens[i].substring(at);
+                fails(String.join(" ", other), 1, place);
             }
             place += tokens[i].length() + 1;
         }
@@ -511,6 +532,23 @@ final class EdgesOfText {
         Due.is("TAPE", x.count(8), 0);
         Due.is("end 0 again", x.end(0), 0);
         Due.is("rivers", x.rivers(), 0);
+        // What was cut away is no part of the word or number that it was cut from.
+        Due.tape(x, HEAD + "rain 4 at 61;");
+        Due.is("end", x.end(41), 41);
+        Due.is("rivers", x.rivers(), -4);
+        Due.is("no number out of bounds", x.fault(0), 1);
+        Due.is("the end", x.fault(1), 41);
+        Due.tape(x, HEAD + "rains");
+        Due.is("end", x.end(34), 34);
+        Due.is("rivers", x.rivers(), -4);
+        Due.is("no other word", x.fault(1), 34);
+        // Nor is what stood there ahead of an earlier rivers(): forty bytes, and behind them a digit of before.
+        String forty = "rivers level 5 odds 1 swell 1;rain 1 at6";
+        Due.is("rivers", Due.tell(x, forty + "1;"), -4);
+        Due.is("61", x.fault(0), 2);
+        Due.is("rivers", Due.tell(x, forty), -4);
+        Due.is("6 and the end", x.fault(0), 1);
+        Due.is("place", x.fault(1), 40);
         // What was cut away comes no more: what is fed stands in its place.
         Due.tape(x, HEAD + "rain 4 at !");
         Due.is("end", x.end(40), 40);
