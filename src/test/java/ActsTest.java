@@ -9,6 +9,7 @@ public final class ActsTest {
         count();
         images();
         imageOfNone();
+        lastCalls();
         Due.end();
     }
 
@@ -222,5 +223,24 @@ public final class ActsTest {
         Due.is("acts", x.count(6), 0);
         Due.is("REACHES", x.count(3), 0);
         Due.is("undo", x.undo(), -2);
+    }
+
+    /** The 512th call is answered as the first one; what was taken back ahead of it counts no more. */
+    private static void lastCalls() {
+        QuotedRiver x = Due.told(Samples.FOUR);
+        int calls = (Samples.FOUR.length() + 19) / 20 + 2;
+        for (int round = 0; calls + 31 <= 512 - 10; round++) {
+            for (int act = 0; act < 30; act++) {
+                Due.is("close " + round + " " + act, x.close(0, 1 - act % 2), act % 2);
+            }
+            Due.is("anew " + round, x.anew(), 30);
+            calls += 31;
+        }
+        for (; calls < 512 - 3; calls++) {
+            Due.is("sea " + calls, x.sea(0, 0), 3);
+        }
+        Due.is("510th", x.close(0, 1), 0);
+        Due.is("511th", x.sea(0, 0), 7);
+        Due.is("512th", x.undo(), 0);
     }
 }

@@ -38,11 +38,14 @@ public final class WildTest {
 
     private void run(List<Method> calls) throws IllegalAccessException {
         boolean mild = random.nextBoolean();
-        for (int i = 0; i < 450; i++) {
+        // An object is used for 512 calls; a text takes 37 of them at most.
+        for (int made = 0; made < 512 - 38; made++) {
             Method call = calls.get(random.nextInt(calls.size()));
             if (call.getName().equals("rivers")) {
+                String text = random.nextInt(4) == 0 ? noise() : TEXTS[random.nextInt(TEXTS.length)];
                 x.end(0);
-                Due.tape(x, random.nextInt(4) == 0 ? noise() : TEXTS[random.nextInt(TEXTS.length)]);
+                Due.tape(x, text);
+                made += (text.length() + 19) / 20 + 2;
             }
             Object[] arguments = new Object[call.getParameterCount()];
             for (int k = 0; k < arguments.length; k++) {
